@@ -63,7 +63,7 @@ public final class GuideBook {
     private final Letters letters = new Letters();
     private final Marks marks = new Marks();
     private final Tape tape = new Tape();
-    private final Parser parser = new Parser(tape);
+    private final Parser parser = new Parser();
     private final Script script = new Script();
     private final Editions editions = new Editions();
     private final Bag bag = new Bag();
@@ -191,7 +191,7 @@ public final class GuideBook {
     }
 
     public int text() {
-        int fault = parser.parse();
+        int fault = parser.parse(tape);
         tape.length = 0;
         // A faulty text is no TEXT: the one there was stays.
         if (fault == 0) {
@@ -308,6 +308,10 @@ public final class GuideBook {
 
     private static boolean isValue(int value) {
         return within(value, LAST_VALUE);
+    }
+
+    private static boolean isName(int token) {
+        return token >= MARKS && token <= PAID;
     }
 
     /** The PLACES of the PLAN, a bit each. */
@@ -595,19 +599,35 @@ public final class GuideBook {
         }
 
         private boolean isBlank(int at) {
-            return at < length && (signs[at] == '\n' || signs[at] == ' ');
+            return within(at, length - 1) && (signs[at] == '\n' || signs[at] == ' ');
         }
 
         private boolean isLetter(int at) {
-            return at < length && signs[at] >= 'a' && signs[at] <= 'z';
+            return within(at, length - 1) && signs[at] >= 'a' && signs[at] <= 'z';
         }
 
         private boolean isDigit(int at) {
-            return at < length && signs[at] >= '0' && signs[at] <= '9';
+            return within(at, length - 1) && signs[at] >= '0' && signs[at] <= '9';
+        }
+
+        private int endOfLetters(int from) {
+            int end = from;
+            while (end < length && isLetter(end)) {
+                end++;
+            }
+            return end;
+        }
+
+        private int endOfDigits(int from) {
+            int end = from;
+            while (end < length && isDigit(end)) {
+                end++;
+            }
+            return end;
         }
 
         private boolean spells(int from, int to, String word) {
-            if (to > length || to - from != word.length()) {
+            if (from < 0 || to > length || to - from != word.length()) {
                 return false;
             }
             for (int i = 0; i < word.length(); i++) {
@@ -619,169 +639,59 @@ public final class GuideBook {
         }
     }
 
-    /** Reads the TAPE as a TEXT, token by token, into a draft. */
-    private static final class Parser {
+    /** The TOKENS on the TAPE: what each is, where it stands, a NUMBER's value; END is the last. */
+    private static final class Tokens {
         private static final int MOST_DIGITS = 4;
 
-        private final Tape tape;
-        private final Script draft = new Script();
-        private int token;
-        private int start;
-        private int end;
-        private int value;
-        private int fault;
+        private final int[] what = new int[MOST_SIGNS + 1];
+        private final int[] where = new int[MOST_SIGNS + 1];
+        private final int[] value = new int[MOST_SIGNS + 1];
+        private int size;
 
-        private Parser(Tape read) {
-            tape = read;
-        }
-
-        /** 0, or the FAULT. */
-        private int parse() {
-            draft.clear();
-            fault = 0;
-            end = 0;
-            advance();
-            for (int n = 0; n <= MOST_LINES && token != END; n++) {
-                if (!parseLine(n)) {
-                    return fault;
+        private void scan(Tape tape) {
+            size = 0;
+            for (int at = 0; at < tape.length; at++) {
+                if (startsToken(tape, at)) {
+                    addFrom(tape, at);
                 }
             }
-            return 0;
+            add(END, tape.length, 0);
         }
 
-        private boolean parseLine(int linesAhead) {
-            if (token != STAR) {
-                return refuse(MISPLACED);
-            }
-            if (linesAhead >= MOST_LINES) {
-                return refuse(TOO_MUCH);
-            }
-            advance();
-            if (token != NUMBER) {
-                return refuse(MISPLACED);
-            }
-            if (value > MOST_STARS) {
-                return refuse(TOO_MANY_STARS);
-            }
-            int given = value;
-            advance();
-            if (!pass(WHEN) || !parseWhole(0) || !pass(';')) {
-                return false;
-            }
-            draft.endLine(given);
-            return true;
+        private static boolean startsToken(Tape tape, int at) {
+            boolean goesOn = tape.isLetter(at) && tape.isLetter(at - 1)
+                || tape.isDigit(at) && tape.isDigit(at - 1);
+            return !goesOn && !tape.isBlank(at);
         }
 
-        // The depth is the number of PARTS round what is parsed.
-        private boolean parseWhole(int depth) {
-            if (!parseTest(depth)) {
-                return false;
-            }
-            for (int n = 0; n < MOST_SIGNS && token == AND; n++) {
-                advance();
-                if (!parseTest(depth)) {
-                    return false;
-                }
-                draft.add(-AND);
-            }
-            return true;
-        }
-
-        private boolean parseTest(int depth) {
-            if (!parseSum(depth)) {
-                return false;
-            }
-            if (token != '<' && token != '=') {
-                return true;
-            }
-            int sign = token;
-            advance();
-            if (!parseSum(depth)) {
-                return false;
-            }
-            draft.add(-sign);
-            return true;
-        }
-
-        private boolean parseSum(int depth) {
-            if (!parsePart(depth)) {
-                return false;
-            }
-            for (int n = 0; n < MOST_SIGNS && (token == '+' || token == '-'); n++) {
-                int sign = token;
-                advance();
-                if (!parsePart(depth)) {
-                    return false;
-                }
-                draft.add(-sign);
-            }
-            return true;
-        }
-
-        private boolean parsePart(int depth) {
-            boolean named = token >= MARKS && token <= PAID;
-            if (token != '(' && token != NUMBER && !named) {
-                return refuse(MISPLACED);
-            }
-            if (depth >= MOST_PARTS) {
-                return refuse(TOO_MUCH);
-            }
-            if (token == '(') {
-                advance();
-                return parseWhole(depth + 1) && pass(')');
-            }
-            draft.add(named ? -token : value);
-            advance();
-            return true;
-        }
-
-        private boolean pass(int wanted) {
-            if (token != wanted) {
-                return refuse(MISPLACED);
-            }
-            advance();
-            return true;
-        }
-
-        private boolean refuse(int kind) {
-            fault = kind + 16 * start;
-            return false;
-        }
-
-        /** Goes on to the next token. */
-        private void advance() {
-            start = end;
-            while (start < MOST_SIGNS && tape.isBlank(start)) {
-                start++;
-            }
-            end = start + 1;
-            if (start >= tape.length) {
-                end = start;
-                token = END;
-            } else if (tape.isLetter(start)) {
-                scanWord();
-            } else if (tape.isDigit(start)) {
-                scanNumber();
+        private void addFrom(Tape tape, int at) {
+            if (tape.isLetter(at)) {
+                add(wordToken(tape, at, tape.endOfLetters(at)), at, 0);
+            } else if (tape.isDigit(at)) {
+                addNumber(tape, at, tape.endOfDigits(at));
             } else {
-                token = signToken(tape.signs[start]);
+                add(signToken(tape.signs[at]), at, 0);
             }
         }
 
-        private void scanWord() {
-            while (end < MOST_SIGNS && tape.isLetter(end)) {
-                end++;
+        private void addNumber(Tape tape, int from, int to) {
+            if (to - from > MOST_DIGITS) {
+                add(NO_TOKEN, from, 0);
+                return;
             }
-            token = wordToken();
+            int number = 0;
+            for (int at = from; at < to; at++) {
+                number = number * 10 + (tape.signs[at] - '0');
+            }
+            add(NUMBER, from, number);
         }
 
-        private void scanNumber() {
-            while (end < MOST_SIGNS && tape.isDigit(end)) {
-                end++;
-            }
-            token = end - start > MOST_DIGITS ? NO_TOKEN : NUMBER;
-            value = 0;
-            for (int at = start; at < end && token == NUMBER; at++) {
-                value = value * 10 + (tape.signs[at] - '0');
+        private void add(int token, int at, int number) {
+            if (size <= MOST_SIGNS) {
+                what[size] = token;
+                where[size] = at;
+                value[size] = number;
+                size++;
             }
         }
 
@@ -801,36 +711,154 @@ public final class GuideBook {
         }
 
         // A WORD that the grammar does not know can stand nowhere: it is as good as no token.
-        private int wordToken() {
-            if (spelt("star")) {
+        private static int wordToken(Tape tape, int from, int to) {
+            if (tape.spells(from, to, "star")) {
                 return STAR;
             }
-            if (spelt("when")) {
+            if (tape.spells(from, to, "when")) {
                 return WHEN;
             }
-            if (spelt("and")) {
+            if (tape.spells(from, to, "and")) {
                 return AND;
             }
-            if (spelt("marks")) {
+            if (tape.spells(from, to, "marks")) {
                 return MARKS;
             }
-            if (spelt("mean")) {
+            if (tape.spells(from, to, "mean")) {
                 return MEAN;
             }
-            if (spelt("least")) {
+            if (tape.spells(from, to, "least")) {
                 return LEAST;
             }
-            if (spelt("greatest")) {
+            if (tape.spells(from, to, "greatest")) {
                 return GREATEST;
             }
-            if (spelt("facts")) {
+            if (tape.spells(from, to, "facts")) {
                 return FACTS;
             }
-            return spelt("paid") ? PAID : NO_TOKEN;
+            return tape.spells(from, to, "paid") ? PAID : NO_TOKEN;
+        }
+    }
+
+    /** Reads the TAPE as a TEXT into a draft. */
+    private static final class Parser {
+        // What binds least comes first.
+        private static final int BY_AND = 0;
+        private static final int BY_COMPARISON = 1;
+        private static final int BY_SUM = 2;
+
+        private final Tokens tokens = new Tokens();
+        private final Script draft = new Script();
+        private int at;
+        private int fault;
+
+        /** 0, or the FAULT. */
+        private int parse(Tape tape) {
+            tokens.scan(tape);
+            draft.clear();
+            at = 0;
+            fault = 0;
+            for (int n = 0; n <= MOST_LINES && token() != END; n++) {
+                if (!parseLine(n)) {
+                    return fault;
+                }
+            }
+            return 0;
         }
 
-        private boolean spelt(String word) {
-            return tape.spells(start, end, word);
+        private boolean parseLine(int linesAhead) {
+            if (token() != STAR) {
+                return refuse(MISPLACED);
+            }
+            if (linesAhead >= MOST_LINES) {
+                return refuse(TOO_MUCH);
+            }
+            at++;
+            if (token() != NUMBER) {
+                return refuse(MISPLACED);
+            }
+            int given = tokens.value[at];
+            if (given > MOST_STARS) {
+                return refuse(TOO_MANY_STARS);
+            }
+            at++;
+            if (!pass(WHEN) || !parseJoined(BY_AND, 0) || !pass(';')) {
+                return false;
+            }
+            draft.endLine(given);
+            return true;
+        }
+
+        /** An E, TEST or SUM, by what joins it, with so many PARTS (depth) round it. */
+        private boolean parseJoined(int by, int depth) {
+            if (by > BY_SUM) {
+                return parsePart(depth);
+            }
+            if (!parseJoined(by + 1, depth)) {
+                return false;
+            }
+            int most = by == BY_COMPARISON ? 1 : MOST_SIGNS;
+            for (int n = 0; n < most && joins(token()) == by; n++) {
+                int sign = token();
+                at++;
+                if (!parseJoined(by + 1, depth)) {
+                    return false;
+                }
+                draft.add(-sign);
+            }
+            return true;
+        }
+
+        private boolean parsePart(int depth) {
+            int token = token();
+            boolean named = isName(token);
+            if (token != '(' && token != NUMBER && !named) {
+                return refuse(MISPLACED);
+            }
+            if (depth >= MOST_PARTS) {
+                return refuse(TOO_MUCH);
+            }
+            if (token == '(') {
+                at++;
+                return parseJoined(BY_AND, depth + 1) && pass(')');
+            }
+            draft.add(named ? -token : tokens.value[at]);
+            at++;
+            return true;
+        }
+
+        private static int joins(int token) {
+            switch (token) {
+                case AND:
+                    return BY_AND;
+                case '<':
+                case '=':
+                    return BY_COMPARISON;
+                case '+':
+                case '-':
+                    return BY_SUM;
+                default:
+                    return NONE;
+            }
+        }
+
+        private int token() {
+            return at < tokens.size ? tokens.what[at] : END;
+        }
+
+        private boolean pass(int wanted) {
+            if (token() != wanted) {
+                return refuse(MISPLACED);
+            }
+            at++;
+            return true;
+        }
+
+        // Only tokens ahead of the END are passed, so there is one here.
+        private boolean refuse(int kind) {
+            int where = at < tokens.size ? tokens.where[at] : 0;
+            fault = kind + 16 * where;
+            return false;
         }
     }
 
@@ -839,7 +867,7 @@ public final class GuideBook {
      * more is itself, one below 0 is a token.
      */
     private static final class Script {
-        // Within 5 brackets "and", a comparison and a sum may each wait: 18 values and one more.
+        // In each of 5 PARTS within one another an "and", a comparison and a sum may wait.
         private static final int MOST_WAITING = 32;
 
         private final int[] code = new int[MOST_SIGNS];
@@ -903,10 +931,6 @@ public final class GuideBook {
                 }
             }
             return top == 0 ? 0 : waiting[top - 1];
-        }
-
-        private static boolean isName(int token) {
-            return token >= MARKS && token <= PAID;
         }
 
         private static int joined(int token, int left, int right) {

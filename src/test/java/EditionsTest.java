@@ -10,6 +10,7 @@ public final class EditionsTest {
         byKind();
         eachEdition();
         wrongErrors();
+        fullBook();
         DUE.end();
     }
 
@@ -134,5 +135,30 @@ public final class EditionsTest {
         DUE.is("errors(0, -2)", book.errors(0, -2), -1);
         DUE.is("errors(-1, 0)", book.errors(-1, 0), -1);
         DUE.is("errors(1, -1)", book.errors(1, -1), -1);
+    }
+
+    private static void fullBook() {
+        GuideBook book = new GuideBook();
+        for (int fact = 0; fact < 60; fact++) {
+            book.fact(fact % 6, fact % 10, 50);
+        }
+        book.years(5);
+        for (int n = 0; n < 100; n++) {
+            book.letter(n % 20, n % 50, 60);
+        }
+        Signs.read(book, "star 1 when facts = 6;");
+        for (int n = 0; n < 10; n++) {
+            DUE.is("edition", book.edition(), n);
+        }
+        for (int fact = 0; fact < 60; fact++) {
+            DUE.is("printed(9, 0, " + fact + ")", book.printed(9, 0, fact), fact < 50 ? 60 : 50);
+            DUE.is("check(" + fact + ", 50)", book.check(fact, 50), 0);
+        }
+        for (int place = 0; place < 10; place++) {
+            DUE.is("printed(9, 1, " + place + ")", book.printed(9, 1, place), 1);
+        }
+        DUE.is("errors(9, -1)", book.errors(9, -1), 50);
+        DUE.is("errors(0, 5)", book.errors(0, 5), 8);
+        DUE.is("printed(9, 0, 60)", book.printed(9, 0, 60), -1);
     }
 }

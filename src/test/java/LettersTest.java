@@ -40,6 +40,8 @@ public final class LettersTest {
             DUE.is("letter " + n, book.letter(n % 20, 0, 2), n);
         }
         DUE.is("a 101st letter", book.letter(0, 0, 2), -1);
+        DUE.is("all of one mind", book.quarrel(0), 0);
+        DUE.is("20 readers against the fact", book.believed(0), 2);
         book.check(0, 2);
         DUE.is("proven ones stay there", book.letter(0, 0, 2), -1);
         DUE.is("count(2)", book.count(2), 100);
@@ -157,6 +159,8 @@ public final class LettersTest {
         book.letter(1, 0, 0);
         DUE.is("different values of one reader", book.quarrel(0), 1);
         DUE.is("the other fact", book.quarrel(1), 0);
+        book.letter(2, 1, 71);
+        DUE.is("the other fact's first and last letters", book.quarrel(1), 1);
         book.check(0, 60);
         DUE.is("proven ones do not quarrel", book.quarrel(0), 0);
         book.letter(1, 0, 0);

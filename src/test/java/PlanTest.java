@@ -90,6 +90,13 @@ public final class PlanTest {
         // The rate is 666666, so each place has a doubt of 333334: three make 1000002.
         DUE.is("one", book.plan(1, 1), 333);
         DUE.is("three", book.plan(3, 1), 1000);
+
+        GuideBook exact = new GuideBook();
+        exact.fact(0, 0, 1);
+        exact.fact(0, 0, 1);
+        exact.fact(1, 1, 1);
+        exact.years(1);
+        DUE.is("exactly 1500000", exact.plan(9, 1), 1500);
     }
 
     private static void fullBook() {

@@ -47,6 +47,8 @@ public final class TextTest {
         Signs.feed(book, " ".repeat(597));
         Signs.feed(book, "star 1 when 1;");
         DUE.is("sta at 597", book.text(), 1 + 16 * 597);
+        DUE.is("600 tokens", Signs.read(book, ";".repeat(600)), 1);
+        DUE.is("600 tokens", Signs.read(book, "star1when" + "1+".repeat(295) + "1"), 1 + 16 * 600);
         DUE.is("600 blanks", Signs.read(book, " ".repeat(600)), 0);
         DUE.is("star and 596 blanks: the end", Signs.read(book, "star" + " ".repeat(596)),
             1 + 16 * 600);
@@ -65,6 +67,10 @@ public final class TextTest {
         reads("star 1 when abcdefghijklmnop;", 1 + 16 * 12);
         reads("star 1 when mark;", 1 + 16 * 12);
         reads("starstar 1 when 1;", 1);
+        reads("starz 1 when 1;", 1);
+        reads("tar 1 when 1;", 1);
+        reads("xtar 1 when 1;", 1);
+        reads("star 1 when azpaid;", 1 + 16 * 12);
         reads("Star 1 when 1;", 1);
         reads("star 1 when 1 > 2;", 1 + 16 * 14);
         reads("star 1 when 1 * 2;", 1 + 16 * 14);
