@@ -5,12 +5,18 @@ import java.util.function.IntSupplier;
 final class Due {
     private int told;
     private int wrong;
+    private String sentence = "";
+
+    /** The document's words that the answers from here on are held against. */
+    void sentence(String words) {
+        sentence = "\"" + words + "\": ";
+    }
 
     void is(String call, long got, long want) {
         told++;
         if (got != want) {
             wrong++;
-            System.out.println(call + " answered " + got + ", due is " + want);
+            System.out.println(sentence + call + " answered " + got + ", due is " + want);
         }
     }
 
@@ -23,7 +29,8 @@ final class Due {
         try {
             int got = answer.getAsInt();
             wrong++;
-            System.out.println(call + " answered " + got + ", due is NoSuchElementException");
+            System.out.println(sentence + call + " answered " + got
+                + ", due is NoSuchElementException");
         } catch (NoSuchElementException due) {
             return;
         }

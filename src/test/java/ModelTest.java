@@ -4,7 +4,8 @@ import java.util.function.IntSupplier;
 
 /** Random runs of 512 calls, on ordinary and on wrong numbers, each answer beside the model's. */
 public final class ModelTest {
-    private static final int RUNS = 1500;
+    private static final int RUNS = 2000;
+    private static final int MOST_CALLS = 512;
     private static final int[] EDGES = {
         Integer.MIN_VALUE, Integer.MIN_VALUE + 1, -1000, -2, -1, 0, 1, 2, 4, 5, 6, 9, 10, 16, 19, 20,
         21, 59, 60, 61, 99, 100, 101, 999, 1000, 9999, 10000, Integer.MAX_VALUE - 1,
@@ -23,6 +24,7 @@ public final class ModelTest {
     private String run;
     private int values;
     private int kinds;
+    private int calls;
 
     private ModelTest(long seed) {
         random = new Random(seed);
@@ -44,7 +46,8 @@ public final class ModelTest {
         values = random.nextBoolean() ? 4 : 10000;
         kinds = 1 + random.nextInt(6);
         int wrongOneIn = random.nextBoolean() ? 10 : 200;
-        for (int call = 0; call < 512; call++) {
+        calls = 0;
+        while (calls < MOST_CALLS) {
             if (random.nextInt(wrongOneIn) == 0) {
                 oneCall(random.nextInt(27), edge(), edge(), edge());
             } else {
@@ -93,16 +96,19 @@ public final class ModelTest {
     }
 
     private void feedText(String text) {
-        for (int at = 0; at < text.length(); at += 24) {
+        for (int at = 0; at < text.length() && calls < MOST_CALLS; at += 24) {
             long a = Signs.eight(text, at);
             long b = Signs.eight(text, at + 8);
             long c = Signs.eight(text, at + 16);
+            calls++;
             due.is(run + "feed", book.feed(a, b, c), model.feed(a, b, c));
         }
-        if (below(8) != 0) {
+        if (below(8) != 0 && calls < MOST_CALLS) {
+            calls++;
             due.is(run + "text of \"" + text + "\"", book.text(), model.text());
         }
-        for (int place = 0; place < 10; place++) {
+        for (int place = below(5); place < 10 && calls < MOST_CALLS; place += 1 + below(5)) {
+            calls++;
             due.is(run + "stars by \"" + text + "\"", book.stars(place), model.stars(place));
         }
     }
@@ -160,6 +166,7 @@ public final class ModelTest {
     }
 
     private void oneCall(int which, int a, int b, int c) {
+        calls++;
         String call = run + which + "(" + a + ", " + b + ", " + c + ")";
         int got = answer(() -> ofBook(which, a, b, c));
         due.is(call, got, ofModel(which, a, b, c));
