@@ -7,7 +7,10 @@ final class Due {
     private int wrong;
     private String sentence = "";
 
-    /** The document's words that the answers from here on are held against. */
+    /**
+     * The document's words that the answers from here on are held against; " .. " stands for words
+     * left out, and a case may stand in brackets behind them.
+     */
     void sentence(String words) {
         sentence = "\"" + words + "\": ";
     }

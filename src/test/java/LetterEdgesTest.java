@@ -369,6 +369,16 @@ public final class LetterEdgesTest {
         DUE.is("one is open", book.quarrel(0), 0);
         book.letter(0, 0, 0);
         DUE.is("two are open", book.quarrel(0), 1);
+        GuideBook hundred = oneFact(5);
+        for (int n = 0; n < 100; n++) {
+            hundred.letter(n % 20, 0, n == 0 ? 6 : 7);
+        }
+        DUE.is("the first of 100 says another", hundred.quarrel(0), 1);
+        hundred = oneFact(5);
+        for (int n = 0; n < 100; n++) {
+            hundred.letter(n % 20, 0, n == 99 ? 6 : 7);
+        }
+        DUE.is("the last of 100 says another", hundred.quarrel(0), 1);
     }
 
     private static void quarrelOfNoFact() {

@@ -252,6 +252,13 @@ public final class PlanEdgesTest {
         for (int days = 0; days < due.length; days++) {
             DUE.is("plan(" + days + ", 1)", book.plan(days, 1), due[days]);
         }
+        GuideBook old = new GuideBook();
+        old.fact(0, 0, 0);
+        Books.pass(old, 19);
+        DUE.is("the chance", old.chance(0), 1);
+        DUE.is("999999 millionths", old.plan(1, 1), 999);
+        old.years(1);
+        DUE.is("1000000 millionths", old.plan(1, 1), 1000);
     }
 
     private static void lessThanAThousand() {

@@ -3,6 +3,9 @@ public final class TextEdgesTest {
     private static final Due DUE = new Due();
     private static final String SIGNS = "()<=+-;";
     private static final String LINE = "star 1 when 1;";
+    private static final String[] TOKENS = {"star", "when", "and", "marks", "mean", "least", "greatest",
+        "facts", "paid", "1", "(", ")", "<", "=", "+", "-", ";", "word", "12345", "~"};
+    private static final String PARTS = " 1 marks mean least greatest facts paid ( ";
 
     public static void main(String[] args) {
         twentyFourSigns();
@@ -37,6 +40,7 @@ public final class TextEdgesTest {
         theLeast();
         seventeenthLine();
         eachTokenMissing();
+        whatCanStandThere();
         inPlaceOfTheOneThereWas();
         DUE.end();
     }
@@ -301,6 +305,9 @@ public final class TextEdgesTest {
         DUE.is("600 signs", Signs.feed(book, full), 600);
         DUE.is("text()", book.text(), 0);
         DUE.is("stars(0)", book.stars(0), 2);
+        DUE.is("600 signs again", Signs.feed(book, full.replace("=291", "=292")), 600);
+        DUE.is("text()", book.text(), 0);
+        DUE.is("stars(0)", book.stars(0), 0);
         String differences = "star 3when" + "1" + "-1".repeat(290) + "<0   ;   ";
         DUE.is("600 signs", Signs.feed(book, differences), 600);
         DUE.is("text()", book.text(), 0);
@@ -479,6 +486,44 @@ public final class TextEdgesTest {
         reads("star 1 when (1;", 1 + 16 * 14);
         reads("star 1 when 1);", 1 + 16 * 13);
         reads("star 1 when (1));", 1 + 16 * 15);
+    }
+
+    private static void whatCanStandThere() {
+        DUE.sentence("1 it is none, or can't stand there");
+        stand("", " star ");
+        stand(LINE, " star ");
+        stand("star ", " 1 ");
+        stand("star 1 ", " when ");
+        stand("star 1 when ", PARTS);
+        stand("star 1 when 1 ", " < = + - and ; ");
+        stand("star 1 when 1 + ", PARTS);
+        stand("star 1 when 1 - ", PARTS);
+        stand("star 1 when 1 - 1 ", " < = + - and ; ");
+        stand("star 1 when 1 < ", PARTS);
+        stand("star 1 when 1 = ", PARTS);
+        stand("star 1 when 1 < 1 ", " + - and ; ");
+        stand("star 1 when 1 = 1 + 1 ", " + - and ; ");
+        stand("star 1 when 1 and ", PARTS);
+        stand("star 1 when 1 < 1 and 1 ", " < = + - and ; ");
+        stand("star 1 when ( ", PARTS);
+        stand("star 1 when ( paid ", " < = + - and ) ");
+        stand("star 1 when ( paid = 1 ", " + - and ) ");
+        stand("star 1 when 1 = ( paid ", " < = + - and ) ");
+        stand("star 1 when ( paid ) ", " < = + - and ; ");
+        stand("star 1 when 1 = ( paid = 1 ) ", " + - and ; ");
+        stand("star 1 when ( ( paid ) ", " < = + - and ) ");
+    }
+
+    /** Behind such a beginning these tokens can stand: the end is wrong then, if anything is. */
+    private static void stand(String beginning, String allowed) {
+        for (String token : TOKENS) {
+            String text = beginning + token;
+            if (!allowed.contains(" " + token + " ")) {
+                reads(text, 1 + 16 * beginning.length());
+            } else {
+                reads(text, token.equals(";") ? 0 : 1 + 16 * text.length());
+            }
+        }
     }
 
     private static void inPlaceOfTheOneThereWas() {
