@@ -290,6 +290,11 @@ public final class GuideBook {
         return n >= 0 && n <= last;
     }
 
+    /** The quotient, cut towards 0; 0 where there is nothing to divide by. */
+    private static int cut(long sum, int parts) {
+        return parts == 0 ? 0 : (int) (sum / parts);
+    }
+
     private static boolean isKind(int kind) {
         return within(kind, KINDS - 1);
     }
@@ -414,9 +419,8 @@ public final class GuideBook {
         }
 
         private int rateOf(int ofKind) {
-            long still = kindYears[ofKind] + 1 - kindChanges[ofKind];
-            long rate = MILLION * still / (kindYears[ofKind] + 2);
-            return rate < 0 ? 0 : (int) rate;
+            long still = Math.max(0, kindYears[ofKind] + 1 - kindChanges[ofKind]);
+            return cut(MILLION * still, kindYears[ofKind] + 2);
         }
 
         private int chanceOf(int fact) {
@@ -495,7 +499,7 @@ public final class GuideBook {
         }
 
         private int weightOf(int from) {
-            return THOUSAND * (rightOf[from] + 1) / (rightOf[from] + wrongOf[from] + 2);
+            return cut(THOUSAND * (rightOf[from] + 1), rightOf[from] + wrongOf[from] + 2);
         }
 
         /** The sum of the WEIGHTS of those who say the value, each READER once. */
@@ -549,7 +553,7 @@ public final class GuideBook {
                     both++;
                 }
             }
-            return both == 0 ? 0 : sum / both;
+            return cut(sum, both);
         }
 
         private int onScale(int place, int walker) {
@@ -573,7 +577,7 @@ public final class GuideBook {
                 }
             }
             named[MARKS - MARKS] = many;
-            named[MEAN - MARKS] = many == 0 ? 0 : sum / many;
+            named[MEAN - MARKS] = cut(sum, many);
             named[LEAST - MARKS] = many == 0 ? 0 : least;
             named[GREATEST - MARKS] = greatest;
         }
